@@ -12,8 +12,10 @@ public final class BeadSchool {
     private static final int NULL = 1, BEYOND = 2, CAST = 3, SIZE = 4, ZERO = 5;
     private static final int MOST_FRAMES = 30, MOST_DEEP = 5, MOST_EXERCISES = 200, MOST_PUPIL = 300;
     private static final int LOWER = 0, UPPER = 1;
+    private static final int CANNOT = -1;
     private static final int STEP_WIDTH = 7, PUPIL_WIDTH = 4;
     private static final int FLOAT_WIDTH = 23, DOUBLE_WIDTH = 52;
+    private static final int LONGEST_NUMBER = 64;
 
     private final Frame[] frames = new Frame[MOST_FRAMES];
     private int frameCount;
@@ -613,7 +615,7 @@ public final class BeadSchool {
         return latest.close(latest.extract(x, y, by));
     }
 
-    // ---- the bodies of the ASKS; a negative answer is a CAST
+    // ---- the bodies of the ASKS; CANNOT is a CAST, and no answer is below 0
 
     private void begun(int body) {
         traced = 31 * traced + body;
@@ -623,7 +625,7 @@ public final class BeadSchool {
         if (x.kind == DOUBLE) {
             begun(3);
             Frame first = x.first;
-            return first == null || depth > MOST_DEEP ? NONE : askBase(first, depth + 1);
+            return first == null || depth > MOST_DEEP ? CANNOT : askBase(first, depth + 1);
         }
         if (x.kind == SIXTEEN) {
             begun(2);
@@ -635,7 +637,7 @@ public final class BeadSchool {
 
     private int askBeads(Frame x) {
         if (x.kind == DOUBLE) {
-            return NONE;
+            return CANNOT;
         }
         if (x.kind == TEN) {
             begun(6);
@@ -652,7 +654,7 @@ public final class BeadSchool {
 
     private int askCarry(Frame x, int depth) {
         if (x.kind == TEN) {
-            return NONE;
+            return CANNOT;
         }
         if (x.kind == FIVE) {
             begun(7);
@@ -666,7 +668,7 @@ public final class BeadSchool {
         Frame first = x.first;
         Frame second = x.second;
         if (first == null || second == null || depth > MOST_DEEP) {
-            return NONE;
+            return CANNOT;
         }
         int one = askCarry(first, depth + 1);
         if (one < 0) {
@@ -678,7 +680,7 @@ public final class BeadSchool {
 
     private int askJudge(Frame x) {
         if (x.kind == DOUBLE || x.kind == TEN) {
-            return NONE;
+            return CANNOT;
         }
         int said = x.rods.length;
         if (x.kind == SIXTEEN) {
@@ -695,8 +697,13 @@ public final class BeadSchool {
     // ---- numbers
 
     private static int digitCount(long v, int base) {
+        if (base <= 1) {
+            return 0;
+        }
+        long left = v;
         int n = 0;
-        for (long left = v; left > 0 && base > 1; left /= base) {
+        while (n < LONGEST_NUMBER && left > 0) {
+            left /= base;
             n++;
         }
         return n;
@@ -804,13 +811,11 @@ public final class BeadSchool {
 
     // ---- pupils, exercises
 
-    private static int[] widened(int[] row, int needed) {
-        return needed <= row.length ? row : Arrays.copyOf(row, Math.max(needed, 2 * row.length));
-    }
-
     private void writePupil(int k, int f, int i, int upper, int lower) {
         int at = PUPIL_WIDTH * k;
-        pupilRow = widened(pupilRow, at + PUPIL_WIDTH);
+        if (at + PUPIL_WIDTH > pupilRow.length) {
+            pupilRow = Arrays.copyOf(pupilRow, 2 * pupilRow.length);
+        }
         pupilRow[at] = f;
         pupilRow[at + 1] = i;
         pupilRow[at + 2] = upper;
@@ -1058,8 +1063,8 @@ public final class BeadSchool {
             x = ofX;
             v = ofV;
             // Above any DIGIT: nothing has been come to.
-            lastI = 64;
-            lastJ = 64;
+            lastI = LONGEST_NUMBER;
+            lastJ = LONGEST_NUMBER;
         }
 
         void comeTo(int i, int j) {
@@ -1092,7 +1097,6 @@ public final class BeadSchool {
     /** The latest METHOD: it makes the STEPS and keeps their row, which later ones use again. */
     private static final class Reckoning {
         private static final int HALT = 99;
-        private static final int LONGEST_CARRY = 64;
 
         private final Parts parts = new Parts();
         private int[] row = new int[STEP_WIDTH * 32];
@@ -1157,7 +1161,7 @@ public final class BeadSchool {
 
         // What STUCK is told by are the very numbers of the FAULTS of reading.
         private boolean canRead(Frame x, int i) {
-            int fault = x.readFault(i);
+            int fault = x.holds(i) ? x.rods[i].readFault() : BEYOND;
             if (fault != 0) {
                 stuckBy = fault;
                 stuckRod = i;
@@ -1178,7 +1182,9 @@ public final class BeadSchool {
             int hand = d >= x.base ? 1 : d < 0 ? -1 : 0;
             r.write(d - hand * x.base);
             int at = STEP_WIDTH * count;
-            row = widened(row, at + STEP_WIDTH);
+            if (at + STEP_WIDTH > row.length) {
+                row = Arrays.copyOf(row, 2 * row.length);
+            }
             row[at] = x.number;
             row[at + 1] = i;
             row[at + 2] = r.upper - upper;
@@ -1202,7 +1208,7 @@ public final class BeadSchool {
 
         private boolean put(Frame x, int i, int amount) {
             int hand = amount;
-            for (int n = 0; n < LONGEST_CARRY && hand != 0; n++) {
+            for (int n = 0; n < LONGEST_NUMBER && hand != 0; n++) {
                 hand = oneStep(x, i + n, hand);
                 if (hand == HALT) {
                     return false;
