@@ -215,9 +215,11 @@ public final class FramesTest {
         due("5 lower alone", x.push(0, 1, 0, 4), 4);
         due("5 no", x.push(0, 1, 0, 1), NO);
         due("5 no changes nothing", x.beads(0, 1, 0), 4);
+        x.frame(0, 0);
+        due("6 no rods at all", x.beads(4, 0, 0), BEYOND);
         x.both(2, 0);
-        due("5 of a double, by its part", x.push(4, 0, 0, 5), NO);
-        due("5 of a double, the other part", x.push(4, 2, 0, 10), 10);
+        due("5 of a double, by its part", x.push(5, 0, 0, 5), NO);
+        due("5 of a double, the other part", x.push(5, 2, 0, 10), 10);
     }
 
     private static void beadsAndDigit() {
@@ -264,6 +266,7 @@ public final class FramesTest {
         x.push(1, 2, 0, 3);
         due("8 of sixteen", x.shows(1), 10 + 3 * 256);
         due("8 no rods", x.shows(2), 0);
+        due("15 no rods onto themselves", x.copy(2, 0, 2, 0, 0), 0);
         due("8 unknown", x.shows(3), LOST);
         due("8 unknown is no fault", x.told(4), 0);
         x.rod(0, 2, -1);
@@ -371,10 +374,11 @@ public final class FramesTest {
             due("11 of a double", x.size(2, what), want[what]);
         }
         due("11 readable", x.size(0, 3), 2);
+        due("11 readable, without rods", x.size(x.frame(0, 0), 3), 0);
         due("11 readable of a ten", x.size(1, 3), 1);
         due("11 outside", x.size(0, 5), OUTSIDE);
         due("11 outside below", x.size(0, -1), OUTSIDE);
-        due("11 unknown", x.size(3, 9), UNKNOWN);
+        due("11 unknown", x.size(4, 9), UNKNOWN);
         due("11 not traced", x.trace(), 0);
     }
 
@@ -434,6 +438,8 @@ public final class FramesTest {
         due("13 sixteen's base", x.asks(s, 0), 16);
         trace = traced(trace, 3, 2);
         due("14 ..", x.trace(), trace);
+        due("13 judge without rods", x.asks(x.frame(0, 0), 3), 0);
+        trace = traced(trace, 10);
         due("13 unknown", x.asks(99, 9), UNKNOWN);
         due("13 outside", x.asks(0, 4), OUTSIDE);
         due("13 outside below", x.asks(0, -1), OUTSIDE);
@@ -463,6 +469,7 @@ public final class FramesTest {
         x.rod(0, 4, -1);
         due("15 a missing one", x.copy(0, 4, 0, 0, 1), 1);
         due("15 ..", x.digit(0, 0), NULL);
+        due("15 all onto themselves", x.copy(0, 0, 0, 0, 5), 5);
         due("15 n 0 at the end", x.copy(0, 5, 0, 5, 0), 0);
         due("16 none came", x.copied(), 0);
         x.copy(0, 1, 0, 1, 2);
