@@ -1345,12 +1345,14 @@ public final class BeadSchool {
     private static final class Exercise {
         private static final int PLACES = 12;
         private static final int GIVEN = 6;
-        private static final int[] WEIGHTS = {100, 10, 1};
+        // a and b as one number, a in front.
+        private static final int[] WEIGHTS = {100000, 10000, 1000, 100, 10, 1};
 
         private final int kind;
         private final int[] digits = new int[PLACES];
         private int blanks;
         private int ways;
+        private int first = -1;
 
         Exercise(int kind, int seed) {
             this.kind = kind;
@@ -1420,42 +1422,31 @@ public final class BeadSchool {
             return c >= 0;
         }
 
-        // c follows from a and b, so only their BLANKS are tried, in the order of THE FIRST.
         void solve() {
-            int tries = 1;
-            int given = 0;
-            for (int p = 0; p < GIVEN; p++) {
-                tries = isBlank(p) ? 10 * tries : tries;
-                given += isBlank(p) ? 0 : weight(p) * digits[p];
-            }
-            int first = -1;
-            for (int t = 0; t < tries; t++) {
-                int both = given + filled(t);
-                if (fits(result(kind, both / 1000, both % 1000))) {
-                    first = ways == 0 ? both : first;
-                    ways++;
-                }
-            }
+            tryFrom(0, 0);
             if (first >= 0) {
                 spread(first / 1000, first % 1000, result(kind, first / 1000, first % 1000), digits);
             }
         }
 
-        // a and b as one number, a in front.
-        private static int weight(int p) {
-            return p < 3 ? 1000 * WEIGHTS[p] : WEIGHTS[p - 3];
+        // c follows from a and b, so only their BLANKS are tried, in the order of THE FIRST.
+        private void tryFrom(int p, int both) {
+            if (p < 0 || p >= GIVEN) {
+                note(both);
+                return;
+            }
+            int least = isBlank(p) ? 0 : digits[p];
+            int most = isBlank(p) ? 9 : digits[p];
+            for (int d = least; d <= most; d++) {
+                tryFrom(p + 1, both + WEIGHTS[p] * d);
+            }
         }
 
-        private int filled(int t) {
-            int sum = 0;
-            int left = t;
-            for (int p = GIVEN - 1; p >= 0; p--) {
-                if (isBlank(p)) {
-                    sum += weight(p) * (left % 10);
-                    left /= 10;
-                }
+        private void note(int both) {
+            if (fits(result(kind, both / 1000, both % 1000))) {
+                first = first < 0 ? both : first;
+                ways++;
             }
-            return sum;
         }
     }
 }
