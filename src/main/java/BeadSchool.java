@@ -253,29 +253,11 @@ public final class BeadSchool {
     // ---- 3 methods
 
     public int add(int f, long v) {
-        Frame x = known(f);
-        if (x == null) {
-            return UNKNOWN;
-        }
-        int refusal = refusalOf(x, v);
-        if (refusal != 0) {
-            return refusal;
-        }
-        latest.open(x, null);
-        return latest.close(latest.putDigits(x, v, 0, 1));
+        return sumUp(known(f), v, 1);
     }
 
     public int less(int f, long v) {
-        Frame x = known(f);
-        if (x == null) {
-            return UNKNOWN;
-        }
-        int refusal = refusalOf(x, v);
-        if (refusal != 0) {
-            return refusal;
-        }
-        latest.open(x, null);
-        return latest.close(latest.putDigits(x, v, 0, -1));
+        return sumUp(known(f), v, -1);
     }
 
     public int times(int f, long v) {
@@ -283,16 +265,8 @@ public final class BeadSchool {
         if (x == null) {
             return UNKNOWN;
         }
-        int refusal = refusalOf(x, v);
-        if (refusal != 0) {
-            return refusal;
-        }
-        int fault = x.firstFault();
-        if (fault != 0) {
-            return faulted(fault);
-        }
-        latest.open(x, null);
-        return latest.close(latest.multiply(x, v));
+        int no = opened(x, null, refusalOf(x, v), false);
+        return no != 0 ? no : latest.close(latest.multiply(x, v));
     }
 
     public int divide(int f, int g, long v) {
@@ -301,27 +275,16 @@ public final class BeadSchool {
         if (x == null || y == null) {
             return UNKNOWN;
         }
-        int refusal = refusalOfTwo(x, y, v, true);
-        if (refusal != 0) {
-            return refusal;
-        }
-        int fault = x.firstFault();
-        if (fault == 0 && v == 0) {
-            fault = ZERO;
-        }
-        if (fault != 0) {
-            return faulted(fault);
-        }
-        latest.open(x, y);
-        return latest.close(latest.quotient(x, y, v));
+        int no = opened(x, y, refusalOfTwo(x, y, v, true), v == 0);
+        return no != 0 ? no : latest.close(latest.quotient(x, y, v));
     }
 
     public int root(int f, int g) {
-        return rootBy(f, g, 2);
+        return rootBy(known(f), known(g), 2);
     }
 
     public int cube(int f, int g) {
-        return rootBy(f, g, 3);
+        return rootBy(known(f), known(g), 3);
     }
 
     public int turn(int f, int g) {
@@ -330,16 +293,8 @@ public final class BeadSchool {
         if (x == null || y == null) {
             return UNKNOWN;
         }
-        int refusal = refusalOfTwo(x, y, 0, false);
-        if (refusal != 0) {
-            return refusal;
-        }
-        int fault = x.firstFault();
-        if (fault != 0) {
-            return faulted(fault);
-        }
-        latest.open(x, y);
-        return latest.close(latest.turnOver(x, y));
+        int no = opened(x, y, refusalOfTwo(x, y, 0, false), false);
+        return no != 0 ? no : latest.close(latest.turnOver(x, y));
     }
 
     public long part(int i, int j) {
@@ -597,22 +552,41 @@ public final class BeadSchool {
         return bad ? NO : 0;
     }
 
-    private int rootBy(int f, int g, int by) {
-        Frame x = known(f);
-        Frame y = known(g);
-        if (x == null || y == null) {
-            return UNKNOWN;
-        }
-        int refusal = refusalOfTwo(x, y, 0, true);
+    // 0: the METHOD is open, and f can be read; else what the call answers.
+    private int opened(Frame x, Frame y, int refusal, boolean byZero) {
         if (refusal != 0) {
             return refusal;
         }
         int fault = x.firstFault();
+        if (fault == 0 && byZero) {
+            fault = ZERO;
+        }
         if (fault != 0) {
             return faulted(fault);
         }
         latest.open(x, y);
-        return latest.close(latest.extract(x, y, by));
+        return 0;
+    }
+
+    // SUM and LESS read no X: a ROD that can't be read matters only where they come to it.
+    private int sumUp(Frame x, long v, int sign) {
+        if (x == null) {
+            return UNKNOWN;
+        }
+        int no = refusalOf(x, v);
+        if (no != 0) {
+            return no;
+        }
+        latest.open(x, null);
+        return latest.close(latest.putDigits(x, v, 0, sign));
+    }
+
+    private int rootBy(Frame x, Frame y, int by) {
+        if (x == null || y == null) {
+            return UNKNOWN;
+        }
+        int no = opened(x, y, refusalOfTwo(x, y, 0, true), false);
+        return no != 0 ? no : latest.close(latest.extract(x, y, by));
     }
 
     // ---- the bodies of the ASKS; CANNOT is a CAST, and no answer is below 0
