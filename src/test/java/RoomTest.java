@@ -1,4 +1,5 @@
 import java.lang.management.ManagementFactory;
+import java.util.Random;
 
 /** What runs allocate: all calls of one run share one room, so rows must be used again. */
 public final class RoomTest {
@@ -17,7 +18,23 @@ public final class RoomTest {
             atMost(counts, "512 calls with the longest methods", 200_000, RoomTest::longMethods);
             atMost(counts, "every frame, exercise and pupil's step", 200_000, RoomTest::everything);
         }
+        beyondTheLastCall();
         check.end();
+    }
+
+    /** What a call answers behind the 512th is free, but none may throw. */
+    private static void beyondTheLastCall() {
+        BeadSchool x = new BeadSchool();
+        Random random = new Random(512);
+        for (int n = 0; n < 20_000; n++) {
+            String call = Calls.FACE[random.nextInt(Calls.FACE.length)];
+            long[] a = new long[call.length() - call.indexOf(':') - 1];
+            for (int k = 0; k < a.length; k++) {
+                a[k] = random.nextInt(9) == 0 ? random.nextLong() : random.nextInt(12) - 1;
+            }
+            Calls.of(x, call.substring(0, call.indexOf(':')), a);
+        }
+        check.holds("all frames and all of a pupil's steps are still told of", x.told(0) <= 30 && x.told(5) <= 300);
     }
 
     private static void atMost(boolean counts, String what, long bytes, Runnable run) {
