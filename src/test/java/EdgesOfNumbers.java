@@ -25,8 +25,18 @@ final class EdgesOfNumbers {
             shows 0 = 8388607
             ofFloat 0 f:16777215 = 1
             shows 0 = 16777215
+            ofFloat 0 f:16777216 = 1
+            shows 0 = 16777216
+            ofFloat 0 f:16777218 = 1
+            shows 0 = 16777218
             ofFloat 0 f:33554432 = 1
             shows 0 = 33554432
+            ofFloat 0 f:4.5474735E-13 = 1
+            shows 0 = 0
+            ofFloat 0 f:9.094947E-13 = 1
+            shows 0 = 0
+            ofFloat 0 f:2.2737368E-13 = 1
+            shows 0 = 0
             ofFloat 0 f:9.9999998E17 = 1
             shows 0 = 999999984306749440
             """);
@@ -86,6 +96,18 @@ final class EdgesOfNumbers {
             shows 0 = 4503599627370495
             ofDouble 0 d:9007199254740991 = 1
             shows 0 = 9007199254740991
+            ofDouble 0 d:9007199254740992 = 1
+            shows 0 = 9007199254740992
+            ofDouble 0 d:9007199254740994 = 1
+            shows 0 = 9007199254740994
+            ofDouble 0 d:18014398509481984 = 1
+            shows 0 = 18014398509481984
+            ofDouble 0 d:2.44140625E-4 = 1
+            shows 0 = 0
+            ofDouble 0 d:1.220703125E-4 = 1
+            shows 0 = 0
+            ofDouble 0 d:4.8828125E-4 = 1
+            shows 0 = 0
             ofDouble 0 d:9.999999999999999E17 = 1
             shows 0 = 999999999999999872
             ofDouble 0 d:1E18 ! NO
@@ -133,7 +155,9 @@ final class EdgesOfNumbers {
             restFloat f:7E-45 f:4.2E-45 ! f:2.8E-45
             restFloat f:1.1754944E-38 f:1.1754942E-38 ! f:1.4E-45
             restFloat f:1.1754942E-38 f:1.1754944E-38 ! f:1.1754942E-38
-            """);
+            restFloat f:4.7019774E-38 f:3.5264831E-38 ! f:1.1754944E-38
+            restFloat f:1.0000002 f:1.0000001 ! f:1.1920929E-7
+            """, farFloats());
         e.sentence("Promise 20", "Bits of no number 2143289344: one of both is no number, a is endless, the unit is 0.",
                 "restFloat f:NaN f:1" + NO_FLOAT + "restFloat -1 f:1" + NO_FLOAT + "restFloat 0x7f800001 f:1" + NO_FLOAT
                 + "restFloat f:1 f:NaN" + NO_FLOAT + "restFloat f:1 -1" + NO_FLOAT + "restFloat f:NaN f:NaN" + NO_FLOAT
@@ -151,8 +175,9 @@ final class EdgesOfNumbers {
             restDouble d:1.7976931348623157E308 d:4.9E-324 ! d:0
             restDouble d:2.5E-323 d:1.5E-323 ! d:1E-323
             restDouble d:2.2250738585072014E-308 d:2.225073858507201E-308 ! d:4.9E-324
-            restDouble d:1E308 d:3 ! d:2
-            """, "restDouble d:NaN d:1" + NO_DOUBLE + "restDouble -1 d:1" + NO_DOUBLE + "restDouble 0x7ff0000000000001 d:1" + NO_DOUBLE
+            restDouble d:1.0000000000000004 d:1.0000000000000002 ! d:2.220446049250313E-16
+            restDouble d:8.900295434028806E-308 d:6.675221575521604E-308 ! d:2.2250738585072014E-308
+            """, farDoubles(), "restDouble d:NaN d:1" + NO_DOUBLE + "restDouble -1 d:1" + NO_DOUBLE + "restDouble 0x7ff0000000000001 d:1" + NO_DOUBLE
                 + "restDouble d:1 d:NaN" + NO_DOUBLE + "restDouble d:1 -1" + NO_DOUBLE + "restDouble d:NaN d:Infinity" + NO_DOUBLE
                 + "restDouble d:Infinity d:1" + NO_DOUBLE + "restDouble d:-Infinity d:1" + NO_DOUBLE
                 + "restDouble d:Infinity d:Infinity" + NO_DOUBLE + "restDouble d:1 d:0" + NO_DOUBLE
@@ -168,6 +193,32 @@ final class EdgesOfNumbers {
         StringBuilder run = new StringBuilder();
         for (String[] r : rests) {
             run.append(call + " " + bits + r[0] + " " + bits + r[1] + " ! " + bits + r[2] + "\n");
+        }
+        return run.toString();
+    }
+
+    /** Numbers far apart: from one another, from what a float holds without a rest. */
+    private static String farFloats() {
+        float[] all = {Float.MIN_VALUE, 3 * Float.MIN_VALUE, Float.MIN_NORMAL, 3 * Float.MIN_NORMAL, 0.1f, 1, 3, 7, 16777215, 1e10f, 1e30f,
+            Float.MAX_VALUE};
+        StringBuilder run = new StringBuilder();
+        for (float a : all) {
+            for (float unit : all) {
+                run.append("restFloat " + Float.floatToIntBits(-a) + " " + Float.floatToIntBits(unit) + " = " + Float.floatToIntBits(-a % unit) + "\n");
+            }
+        }
+        return run.toString();
+    }
+
+    private static String farDoubles() {
+        double[] all = {Double.MIN_VALUE, 3 * Double.MIN_VALUE, Double.MIN_NORMAL, 3 * Double.MIN_NORMAL, 0.1, 1, 3, 7, 9007199254740991d, 1e20,
+            1e300, Double.MAX_VALUE};
+        StringBuilder run = new StringBuilder();
+        for (double a : all) {
+            for (double unit : all) {
+                run.append("restDouble " + Double.doubleToLongBits(-a) + " " + Double.doubleToLongBits(unit) + " = "
+                        + Double.doubleToLongBits(-a % unit) + "\n");
+            }
         }
         return run.toString();
     }

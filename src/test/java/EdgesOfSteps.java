@@ -290,6 +290,20 @@ final class EdgesOfSteps {
             digit 1 1 = 7
             shows 0 = 144
             undo ! NO
+            """, """
+            frame 0 2 = 0
+            frame 0 1 = 1
+            set 0 95 = 1
+            add 0 3 = 1
+            add 0 2 = -102
+            undo ! NO
+            shows 0 = 98
+            less 0 1 = 1
+            times 0 2 = -102
+            undo ! NO
+            turn 0 1 = -102
+            undo ! NO
+            shows 0 = 97
             """);
         e.sentence(TERMS, "Otherwise all STAND, and it answers how many.", """
             frame 0 2 = 0
@@ -585,6 +599,22 @@ final class EdgesOfSteps {
             row 1 = 0 2 0 -9 1 0 -9
             row 2 = 0 1 0 -1 1 0 -1
             row 3 = 0 0 0 -8 1 0 -8
+            """, """
+            frame 0 4 = 0
+            frame 0 2 = 1
+            set 0 2000 = 1
+            divide 0 1 50 = 2
+            row 0 = 1 1 0 4 1 0 4
+            row 1 = 0 3 0 -2 1 0 -2
+            set 0 4275 = 1
+            set 1 0 = 1
+            divide 0 1 855 = 6
+            row 0 = 1 0 1 0 1 0 5
+            row 1 = 0 3 0 -4 1 0 -4
+            row 2 = 0 2 0 -2 1 0 -2
+            row 3 = 0 1 -1 0 1 0 -5
+            row 4 = 0 1 0 -2 1 0 -2
+            row 5 = 0 0 -1 0 1 0 -5
             """);
     }
 

@@ -570,7 +570,7 @@ final class EdgesOfTerms {
             both 0 1 = 2
             asks 2 0 = 16
             trace = 95
-            """);
+            """, deepest(true, "asks 10 0 = 10", 3, 3, 3, 3, 3, 1), deepest(false, "asks 10 0 = 10", 3, 1));
         e.sentence("Terms 3", "1 BEADS, of what SLIDES (FIVE, TEN): FIVE's own (4): 5. SEVEN's own (5): FIVE's, and 2. TEN's own (6): 10.",
                 asked(0, 1, "5", 4), asked(1, 1, "7", 5, 4), asked(2, 1, "10", 6), asked(3, 1, "7", 5, 4));
         e.sentence("Terms 3", "2 CARRY, of what CARRIES (FIVE, DOUBLE): the lent body (7): BASE less 1. SEVEN's own (8): 5 and BEADS. "
@@ -582,7 +582,9 @@ final class EdgesOfTerms {
             both 0 1 = 3
             both 3 2 = 4
             asks 4 2 = 30
-            """ + "trace = " + traced(9, 9, 7, 1, 8, 5, 4, 7, 1));
+            """ + "trace = " + traced(9, 9, 7, 1, 8, 5, 4, 7, 1),
+                deepest(true, "asks 10 2 = 54", 9, 9, 9, 9, 9, 7, 1, 7, 1, 7, 1, 7, 1, 7, 1, 7, 1),
+                deepest(false, "asks 10 2 = 54", 9, 7, 1, 9, 7, 1, 9, 7, 1, 9, 7, 1, 9, 7, 1, 7, 1));
         e.sentence("Terms 3", "3 JUDGE, of what JUDGES (FIVE): FIVE's own (10): how many RODS. SEVEN's own (11): twice FIVE's. SIXTEEN's own (12): SEVEN's, and 1.",
                 asked(0, 3, "3", 10), asked(1, 3, "6", 11, 10), asked(3, 3, "7", 12, 11, 10), """
             frame 0 0 = 0
@@ -621,6 +623,16 @@ final class EdgesOfTerms {
             both 1 0 = 2
             asks 2 2 = CAST
             """ + "trace = " + traced(9, 7, 1));
+    }
+
+    /** FRAME 10 is five DEEP, each DOUBLE being the next one's first part, or its second one. */
+    private static String deepest(boolean first, String asked, int... bodies) {
+        StringBuilder run = new StringBuilder("6 x frame 0 1\n");
+        for (int n = 1; n <= 5; n++) {
+            int inner = n == 1 ? 0 : n + 4;
+            run.append("both " + (first ? inner + " " + n : n + " " + inner) + " = " + (n + 5) + "\n");
+        }
+        return run + "size 10 4 = 5\n" + asked + "\ntrace = " + traced(bodies) + "\n";
     }
 
     private static String asked(int kind, int ask, String said, int... bodies) {
