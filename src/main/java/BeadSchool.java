@@ -16,6 +16,7 @@ public final class BeadSchool {
     private static final int STEP_WIDTH = 7, PUPIL_WIDTH = 4;
     private static final int FLOAT_WIDTH = 23, DOUBLE_WIDTH = 52;
     private static final int LONGEST_NUMBER = 64;
+    private static final long GREATEST = 0x7fffffffffffffffL;
 
     private final Frame[] frames = new Frame[MOST_FRAMES];
     private int frameCount;
@@ -408,7 +409,8 @@ public final class BeadSchool {
         if (exerciseCount >= MOST_EXERCISES) {
             return FULL;
         }
-        Exercise e = new Exercise(kind, seed);
+        Exercise e = new Exercise(kind);
+        e.draw(seed);
         e.solve();
         exercises[exerciseCount] = e;
         exerciseCount++;
@@ -746,7 +748,7 @@ public final class BeadSchool {
         if (by <= 0) {
             return s >>> -by;
         }
-        return by > 62 || s > Long.MAX_VALUE >> by ? Long.MAX_VALUE : s << by;
+        return by > 62 || s > GREATEST >> by ? GREATEST : s << by;
     }
 
     private static long rest(long a, long unit, int width) {
@@ -826,7 +828,8 @@ public final class BeadSchool {
     private int singleExercises() {
         int n = 0;
         for (int e = 0; e < exerciseCount; e++) {
-            if (exercises[e].ways == 1) {
+            Exercise x = knownExercise(e);
+            if (x != null && x.ways == 1) {
                 n++;
             }
         }
@@ -1328,8 +1331,11 @@ public final class BeadSchool {
         private int ways;
         private int first = -1;
 
-        Exercise(int kind, int seed) {
+        Exercise(int kind) {
             this.kind = kind;
+        }
+
+        void draw(int seed) {
             int s = next(seed);
             int one = drawn(s, 1000);
             s = next(s);

@@ -7,8 +7,10 @@ import java.nio.file.Path;
 import java.util.List;
 import java.util.Set;
 import java.util.TreeSet;
+import java.util.regex.Matcher;
+import java.util.regex.Pattern;
 
-/** The public face, to the letter, and what a text search can tell of LANGUAGE.md. */
+/** The public face, to the letter, as the document shows it. */
 public final class FaceTest {
     private static final Check check = new Check("face");
     private static final String FACE = "int frame(int,int) int both(int,int) int rod(int,int,int) int push(int,int,int,int) "
@@ -25,10 +27,13 @@ public final class FaceTest {
 
     public static void main(String[] args) throws Exception {
         face();
+        String document = System.getenv("BEAD_SCHOOL_DOC");
+        Path path = Path.of(document == null ? "../shared/DOC.md" : document);
+        if (Files.exists(path)) {
+            document(Files.readString(path));
+        }
+        constants();
         members();
-        nested();
-        String file = System.getenv("BEAD_SCHOOL");
-        text(Files.readString(Path.of(file == null ? "src/main/java/BeadSchool.java" : file)));
         check.end();
     }
 
@@ -47,6 +52,39 @@ public final class FaceTest {
         check.holds("the face: " + got, got.equals(want));
         check.due("how many", got.size(), 44);
         check.holds("final", Modifier.isFinal(BeadSchool.class.getModifiers()));
+    }
+
+    /** What the document itself tells of the face: its public methods, and once more each promise's head. */
+    private static void document(String text) {
+        Set<String> want = new TreeSet<>(List.of(FACE.replaceAll("(\\)) ", "$1;").split(";")));
+        Set<String> shown = new TreeSet<>();
+        Matcher line = Pattern.compile("public (int|long) (\\w+)\\((.*)\\);").matcher(text);
+        while (line.find()) {
+            shown.add(signature(line));
+        }
+        check.holds("the document's face: " + shown, shown.equals(want));
+        Set<String> promised = new TreeSet<>();
+        Matcher head = Pattern.compile("## Promise \\d+: \\w+\\s+`(int|long) (\\w+)\\((.*)\\)`:").matcher(text);
+        while (head.find()) {
+            promised.add(signature(head));
+        }
+        check.holds("the promises' heads: " + promised, promised.equals(want));
+    }
+
+    private static String signature(Matcher m) {
+        return m.group(1) + " " + m.group(2) + "(" + m.group(3).replaceAll(" \\w+(, |$)", "$1").replace(", ", ",") + ")";
+    }
+
+    private static void constants() throws ReflectiveOperationException {
+        String[] ints = {"UNKNOWN", "OUTSIDE", "NO", "FULL", "NONE"};
+        for (int n = 0; n < ints.length; n++) {
+            Field f = BeadSchool.class.getField(ints[n]);
+            check.holds(ints[n] + " is an int", f.getType() == int.class);
+            check.due(ints[n], f.getInt(null), -1 - n);
+        }
+        Field lost = BeadSchool.class.getField("LOST");
+        check.holds("LOST is a long", lost.getType() == long.class);
+        check.due("LOST", lost.getLong(null), Long.MIN_VALUE);
     }
 
     private static void members() {
@@ -69,43 +107,8 @@ public final class FaceTest {
             int f = m.getModifiers();
             check.holds(m.getName() + " is public or private", Modifier.isPublic(f) || Modifier.isPrivate(f));
             check.holds(m.getName() + " bears no public name", Modifier.isPublic(f) || !names.contains(m.getName()));
-            check.holds(m.getName() + " takes seven at most", m.getParameterCount() <= 7);
         }
         Constructor<?>[] made = BeadSchool.class.getDeclaredConstructors();
         check.holds("one constructor", made.length == 1 && Modifier.isPublic(made[0].getModifiers()));
-    }
-
-    private static void nested() {
-        Class<?>[] inside = BeadSchool.class.getDeclaredClasses();
-        check.holds("twelve classes at most", inside.length <= 11);
-        for (Class<?> c : inside) {
-            check.holds(c + " is private and static", Modifier.isPrivate(c.getModifiers()) && Modifier.isStatic(c.getModifiers()));
-            check.holds(c + " has twenty fields at most", c.getDeclaredFields().length <= 20);
-        }
-    }
-
-    private static void text(String source) {
-        String[] never = {"->", "::", "Exact(", "catch", "finally", "synchronized", "assert", "throw", "package ", "System.",
-            "Float.", "Double.", "Object", "hashCode", "toString", "static {", "import java.util.*", "enum ", "native", "Thread"};
-        for (String s : never) {
-            check.holds("no " + s, !source.contains(s));
-        }
-        check.holds("one import", source.indexOf("import ") == source.lastIndexOf("import "));
-        check.holds("that of Arrays", source.startsWith("import java.util.Arrays;"));
-        for (int n = 0; n < source.length(); n++) {
-            if (source.charAt(n) > 126) {
-                check.holds("plain signs", false);
-            }
-        }
-        int begun = 0;
-        String[] lines = source.split("\n");
-        for (int n = 0; n < lines.length; n++) {
-            if (lines[n].matches(" {4,8}(private |public |static |final )*[A-Za-z\\[\\]]+ ?[A-Za-z]*\\(.*\\) \\{")) {
-                begun = n;
-            }
-            if (lines[n].matches(" {4,8}\\}")) {
-                check.holds("a method of sixty lines at most at " + n, n - begun <= 60 || lines[n].equals("    }"));
-            }
-        }
     }
 }
